@@ -665,7 +665,7 @@ public final class SlotProbe {
             rest = rest * 2;
             exponent--;
         }
-        return (exponent << width) + (long) ((rest - 1) * (1L << width));
+        return (exponent << width) + (long) ((rest - 1) * (double) (1L << width));
     }
 
     /** All that a snapshot or a saved state holds. */
