@@ -256,7 +256,7 @@ public final class SlotProbe {
         needIndex(level, LEVELS);
         needIndex(own, PLANES);
         needRange(what, 0, READING_NUMBERS - 1);
-        workOutFindings();
+        findings.workOut(now);
         switch (what) {
             case 0:
                 return now.readings[readingAt(survey, level, own, 0)];
@@ -276,7 +276,7 @@ public final class SlotProbe {
     public int surveyOf(int survey, int what) throws IndexOutOfBoundsException, IllegalArgumentException {
         needIndex(survey, now.surveys);
         needRange(what, 0, SURVEY_NUMBERS - 1);
-        workOutFindings();
+        findings.workOut(now);
         switch (what) {
             case 0:
                 return now.days[survey];
@@ -297,7 +297,7 @@ public final class SlotProbe {
         needIndex(level, LEVELS);
         needIndex(plane, PLANES);
         needRange(what, 0, 1);
-        workOutFindings();
+        findings.workOut(now);
         if (what == 0) {
             return toldTogether(survey, plane, 0, level);
         }
@@ -338,7 +338,7 @@ public final class SlotProbe {
         needIndex(second, now.surveys);
         needIndex(level, LEVELS);
         needIndex(plane, PLANES);
-        workOutFindings();
+        findings.workOut(now);
         return movedUpTo(first, second, level, plane);
     }
 
@@ -346,7 +346,7 @@ public final class SlotProbe {
         needIndex(first, now.surveys);
         needIndex(second, now.surveys);
         needIndex(plane, PLANES);
-        workOutFindings();
+        findings.workOut(now);
         int most = 0;
         int found = NONE;
         for (int level = 0; level < LEVELS; level++) {
@@ -365,7 +365,7 @@ public final class SlotProbe {
         needIndex(second, now.surveys);
         needIndex(plane, PLANES);
         needRange(by, 1, MOST_MOVED);
-        workOutFindings();
+        findings.workOut(now);
         int movement = 0;
         for (int level = 0; level < LEVELS; level++) {
             movement += slidBetween(first, second, level, plane);
@@ -384,7 +384,7 @@ public final class SlotProbe {
         if (days == 0) {
             return 0.0;
         }
-        workOutFindings();
+        findings.workOut(now);
         return (double) movedUpTo(first, second, HEAD, plane) / days;
     }
 
@@ -474,12 +474,6 @@ public final class SlotProbe {
         findings.fresh = false;
     }
 
-    private void workOutFindings() {
-        if (!findings.fresh) {
-            findings.workOut(now);
-        }
-    }
-
     /** What is met, in one of two directions, by turning the tilts of the directions 0 and 1 by quarters. */
     private static int turnedTilt(int quarters, int tilt0, int tilt1, int direction) {
         switch (quarters) {
@@ -532,7 +526,7 @@ public final class SlotProbe {
         int found = 0;
         for (int level = 0; level < LEVELS; level++) {
             for (int own = 0; own < PLANES; own++) {
-                int off = findings.checkIsOffBy(now, survey, level, own);
+                int off = findings.off[tiltAt(survey, level, own)];
                 if (off > most) {
                     most = off;
                     found = level;
@@ -741,9 +735,10 @@ public final class SlotProbe {
         }
     }
 
-    /** What all surveys of a state tell, worked out once after a change. */
+    /** What all surveys of a state tell, worked out at the first look after a change. */
     private static final class Findings {
         final int[] commons;
+        final int[] off;
         final int[] read;
         final int[] told;
         final int[] ordered;
@@ -751,6 +746,7 @@ public final class SlotProbe {
 
         Findings() {
             commons = new int[SURVEYS * PLANES];
+            off = new int[SURVEYS * ROW];
             read = new int[SURVEYS * ROW];
             told = new int[SURVEYS * ROW];
             ordered = new int[LEVELS];
@@ -759,12 +755,17 @@ public final class SlotProbe {
 
         /** Goes by surveys upwards, as a mended tilt leans on the one that the survey ahead tells. */
         void workOut(State state) {
+            if (fresh) {
+                return;
+            }
             for (int survey = 0; survey < state.surveys; survey++) {
                 for (int own = 0; own < PLANES; own++) {
                     commons[survey * PLANES + own] = commonCheck(state, survey, own);
                 }
                 for (int level = 0; level < LEVELS; level++) {
                     for (int own = 0; own < PLANES; own++) {
+                        int common = commons[survey * PLANES + own];
+                        off[tiltAt(survey, level, own)] = Math.abs(checkOf(state, survey, level, own) - common);
                         read[tiltAt(survey, level, own)] = tiltRead(state, survey, level, own);
                     }
                     tellLevel(state, survey, level);
@@ -786,12 +787,8 @@ public final class SlotProbe {
             return ordered[MIDDLE];
         }
 
-        int checkIsOffBy(State state, int survey, int level, int own) {
-            return Math.abs(checkOf(state, survey, level, own) - commons[survey * PLANES + own]);
-        }
-
         boolean isSuspicious(State state, int survey, int level, int own) {
-            return checkIsOffBy(state, survey, level, own) > state.settings[CHECKS_OFF];
+            return off[tiltAt(survey, level, own)] > state.settings[CHECKS_OFF];
         }
 
         int tiltRead(State state, int survey, int level, int own) {

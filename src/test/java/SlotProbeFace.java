@@ -5,6 +5,8 @@ import java.lang.reflect.Modifier;
 import java.nio.file.Files;
 import java.nio.file.Path;
 import java.util.Arrays;
+import java.util.HashMap;
+import java.util.Map;
 import java.util.Set;
 import java.util.TreeSet;
 import java.util.regex.Matcher;
@@ -101,12 +103,56 @@ public final class SlotProbeFace {
         }
     }
 
-    private static void checkSource() throws Exception {
+    /** The source without its remarks. */
+    private static String code() throws Exception {
         String source = Files.readString(Path.of("src/main/java/SlotProbe.java"));
-        String code = source.replaceAll("(?s)/\\*.*?\\*/", "").replaceAll("//[^\n]*", "");
+        return source.replaceAll("(?s)/\\*.*?\\*/", "").replaceAll("//[^\n]*", "");
+    }
+
+    private static void checkSource(String code) {
         for (String forbidden : FORBIDDEN) {
             Matcher found = Pattern.compile(forbidden).matcher(code);
             due(!found.find(), "the source is without " + forbidden);
+        }
+    }
+
+    private static final Pattern METHOD = Pattern.compile(
+        "(?ms)^((?: {4}){1,2})(?:(?:public|private|static|final) )*(?:[\\w\\[\\]]+ )?(\\w+)\\([^()]*\\)[^;{}]*\\{\n(.*?)^\\1\\}");
+    private static final Pattern CALLED = Pattern.compile("\\b(\\w+)\\(");
+
+    /** By names alone: bodies of one name count as one, which can only make a call look deeper than it is. */
+    private static Map<String, String> bodies(String code) {
+        Map<String, String> bodies = new HashMap<>();
+        Matcher method = METHOD.matcher(code);
+        while (method.find()) {
+            due(method.group(3).split("\n").length <= 60, method.group(2) + " has at most sixty lines");
+            bodies.merge(method.group(2), method.group(3), String::concat);
+        }
+        return bodies;
+    }
+
+    private static int depth(String name, Map<String, String> bodies, String callers) {
+        if (callers.contains(" " + name + " ")) {
+            due(false, name + " is no recursion:" + callers);
+            return 0;
+        }
+        int deepest = 0;
+        Matcher called = CALLED.matcher(bodies.get(name));
+        while (called.find()) {
+            if (bodies.containsKey(called.group(1))) {
+                deepest = Math.max(deepest, depth(called.group(1), bodies, callers + name + " "));
+            }
+        }
+        return 1 + deepest;
+    }
+
+    private static void checkDepths(String code, Set<String> names) {
+        Map<String, String> bodies = bodies(code);
+        due(bodies.keySet().containsAll(names), "the scan finds each public method in " + bodies.keySet());
+        due(depth("digest", bodies, " ") >= 5, "the scan follows the calls of digest");
+        for (String name : bodies.keySet()) {
+            int depth = depth(name, bodies, " ");
+            due(depth <= 8, name + " goes at most eight calls deep: " + depth);
         }
     }
 
@@ -120,7 +166,8 @@ public final class SlotProbeFace {
                 owner + " is private and static");
             checkMembers(owner, names);
         }
-        checkSource();
+        checkSource(code());
+        checkDepths(code(), names);
         System.out.println(wrong == 0 ? "the face is as due" : wrong + " things are not as due");
         if (wrong != 0) {
             System.exit(1);
