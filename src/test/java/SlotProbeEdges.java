@@ -1432,6 +1432,11 @@ public final class SlotProbeEdges {
         says(22, "one for each reading of a text in load()", () -> {
             due(1, loaded("0a+=0").count(5));
             due(3, loaded("0a+=1;0a+=1;0a+=1").count(5));
+            SlotProbe x = loaded("0a+=1;0a+=2");
+            x.spoil(0, 0, 0, 1);
+            write(x, "3b-=-4");
+            x.load();
+            due(4, x.count(5));
         });
         says(22, "a refused spoil() or load() is not counted", () -> {
             SlotProbe x = reads(900);
